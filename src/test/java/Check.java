@@ -43,13 +43,20 @@ final class Check {
         return wrong;
     }
 
-    // The very class counts: the machine's own exceptions are classes below the ones that are due.
     private static String outcome(Call call) {
         try {
             return String.valueOf(call.answer());
         } catch (RuntimeException thrown) {
-            return thrown.getClass().getName();
+            return told(thrown);
         }
+    }
+
+    // The very class and place count: what the machine or its library throws by itself is never due.
+    private static String told(RuntimeException thrown) {
+        StackTraceElement[] trace = thrown.getStackTrace();
+        String place = trace.length == 0 ? "" : trace[0].getClassName();
+        boolean isThrownByHand = place.equals("IsleBoats") || place.equals("Model");
+        return thrown.getClass().getName() + (isThrownByHand ? "" : " of the machine");
     }
 
     private static void compare(String want, String got, String call) {
