@@ -8,6 +8,8 @@ public final class MoneyTest {
         fares();
         farePerState();
         performances();
+        performanceWithoutAny();
+        performanceOfAllOrNone();
         penalties();
         Check.end();
     }
@@ -105,6 +107,48 @@ public final class MoneyTest {
         x.pass(285);
         Check.due(IsleBoats.CANCELLED, () -> x.sailingOf(4, 0));
         Check.due(0.5, x::performance);
+    }
+
+    private static void performanceIs(IsleBoats x, double performance, int penalty) {
+        Check.due(performance, x::performance);
+        Check.due(penalty, x::penalty);
+    }
+
+    private static void performanceWithoutAny() {
+        IsleBoats x = line();
+        x.sailing(0, 1, 0, 5, 10, false);
+        x.sailing(0, 0, 1, 5, 10, false);
+        x.sailing(0, 1, 0, 400, 10, true);
+        performanceIs(x, 1, 0);
+        x.pass(5);
+        // One is CANCELLED and one SAILS, neither a lifeline; the lifeline is PLANNED.
+        Check.due(IsleBoats.CANCELLED, () -> x.sailingOf(0, 0));
+        Check.due(IsleBoats.SAILS, () -> x.sailingOf(1, 0));
+        performanceIs(x, 1, 0);
+        x.pass(394);
+        performanceIs(x, 1, 0);
+    }
+
+    private static void performanceOfAllOrNone() {
+        IsleBoats x = line();
+        x.sailing(0, 0, 1, 5, 10, true);
+        x.sailing(0, 1, 0, 15, 10, true);
+        x.pass(5);
+        performanceIs(x, 1, 0);
+        x.pass(20);
+        performanceIs(x, 1, 0);
+        IsleBoats y = line();
+        y.sailing(0, 0, 1, 301, 10, true);
+        y.breakDown(0);
+        y.pass(299);
+        performanceIs(y, 1, 0);
+        y.pass(1);
+        performanceIs(y, 0, 1000);
+        y.sailing(0, 0, 1, 5, 10, true);
+        performanceIs(y, 0, 1000);
+        y.breakDown(0);
+        y.pass(5);
+        performanceIs(y, 0.5, 500);
     }
 
     private static IsleBoats lifelines(int held, int all) {
